@@ -385,7 +385,7 @@ public final class Phrasehall {
         private final int[] times = new int[MOST_ENTRIES];
         private final int[] spans = new int[MOST_ENTRIES];
         private final int[] targets = new int[MOST_ENTRIES];
-        private final RightOfWay right = new RightOfWay();
+        private final RightOfWay rightOfWay = new RightOfWay();
         private int count = 0;
 
         void empty() {
@@ -464,13 +464,13 @@ public final class Phrasehall {
 
         /** Who has right of way behind the actions that stand ahead of a place in the row. */
         int holderAhead(int place) {
-            right.forget();
+            rightOfWay.forget();
             for (int i = 0; i < place && i < count; i++) {
                 if (isEntry(i) && kinds[i] != CONTACT) {
-                    right.take(sides[i], kinds[i], times[i]);
+                    rightOfWay.take(sides[i], kinds[i], times[i]);
                 }
             }
-            return right.side;
+            return rightOfWay.side;
         }
     }
 

@@ -1,3 +1,5 @@
+import java.util.function.Function;
+
 /** Promises 8 and 18: the clock, passivity, time that is over and what is told of a bout. */
 final class ClockTest {
     private static final int EPEE = Phrasehall.EPEE, SABRE = Phrasehall.SABRE, NONE = Phrasehall.NONE;
@@ -107,8 +109,7 @@ final class ClockTest {
         quiet("actions and contacts", SABRE, 0, h -> h.hit(0, 0, 1, Phrasehall.ON), 1);
     }
 
-    private static void quiet(String what, int weapon, int touched, java.util.function.Function<Phrasehall, Object> call,
-            int passivities) {
+    private static void quiet(String what, int weapon, int touched, Function<Phrasehall, Object> call, int passivities) {
         Phrasehall hall = Halls.bout(weapon, 9);
         hall.clock(30);
         call.apply(hall);

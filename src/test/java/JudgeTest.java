@@ -86,6 +86,13 @@ final class JudgeTest {
         Check.due("touches of the loser", ahead.ofBout(0, 0), 1);
         Check.due("touches of the winner", ahead.ofBout(0, 1), 3);
         Check.due("the double ends it", ahead.ofBout(0, 2), 1);
+        for (int side = 0; side < 2; side++) {
+            Phrasehall close = Halls.bout(EPEE, 3);
+            Halls.give(close, side, 2);
+            Halls.give(close, 1 - side, 1);
+            Check.due("double at 2 and 1 of 3", Halls.doubleTouch(close), 3);
+            Check.due("the double ends it at 3 and 2", close.ofBout(0, 2), side);
+        }
         Phrasehall behind = Halls.bout(EPEE, 3);
         Halls.give(behind, 0, 2);
         Check.due("double at 2 and 0 of 3", Halls.doubleTouch(behind), 3);

@@ -6,6 +6,7 @@ final class RankTest {
         withoutBouts();
         byQuotient();
         byQuotientJustSo();
+        byQuotientAgainstNoBouts();
         byBalance();
         byTouchesGiven();
         withoutTheWithdrawn();
@@ -61,6 +62,20 @@ final class RankTest {
         win(like, 1, 3, 1, 3);
         // quotients are alike: 0 has the balance -2 and 1 has -1, 2 has 2 and 3 has 1
         ranks("2 of 6 and 1 of 3", like, 2, 3, 1, 0);
+    }
+
+    private static void byQuotientAgainstNoBouts() {
+        for (int winner = 0; winner < 3; winner++) {
+            Phrasehall hall = pooled(3);
+            int loser = (winner + 1) % 3;
+            hall.begin(winner, loser, Phrasehall.SABRE, 45, 0);
+            Halls.give(hall, 1, 5);
+            hall.card(1, 3);
+            hall.card(1, 3);
+            // the winner has 1 touch to 5; without wins the better balance comes ahead of no bouts
+            Check.due("first, who won", hall.rank(0, 0), winner);
+            Check.due("second, who lost with the better balance", hall.rank(0, 1), loser);
+        }
     }
 
     /** So many wins of one of so many bouts with another one, each to 1. */

@@ -14,6 +14,7 @@ final class RightOfWayTest {
         remises();
         misses();
         withContactsAndWeapons();
+        forgottenInTheNextPhrase();
         Check.done();
     }
 
@@ -83,7 +84,8 @@ final class RightOfWayTest {
         holder("riposte behind a miss", 1, 0, ATTACK, 0, 1, PARRY, 5, 0, ATTACK, 6, 0, MISS, 7, 1, RIPOSTE, 8);
         holder("riposte twice", 1, 0, ATTACK, 0, 1, PARRY, 5, 1, RIPOSTE, 6, 1, MISS, 7, 1, RIPOSTE, 8);
         holder("the last one that parried", -1, 0, ATTACK, 0, 1, PARRY, 5, 1, RIPOSTE, 6, 0, PARRY, 7, 1, RIPOSTE, 8);
-        holder("riposte by the later parry", 1, 0, ATTACK, 0, 1, PARRY, 5, 0, ATTACK, 300, 1, PARRY, 310, 1, RIPOSTE, 610);
+        holder("riposte by the later parry", 1,
+                0, ATTACK, 0, 1, PARRY, 5, 0, ATTACK, 300, 1, PARRY, 310, 1, RIPOSTE, 610);
     }
 
     private static void remises() {
@@ -101,6 +103,17 @@ final class RightOfWayTest {
         holder("miss of the other", 0, 0, ATTACK, 0, 1, MISS, 5);
         holder("miss of nobody", -1, 0, MISS, 5);
         holder("attack behind a miss", 1, 0, ATTACK, 0, 0, MISS, 5, 1, ATTACK, 6);
+    }
+
+    private static void forgottenInTheNextPhrase() {
+        Phrasehall hall = Halls.bout(Phrasehall.SABRE, 5);
+        hall.act(0, ATTACK, 0);
+        hall.act(1, PARRY, 10);
+        hall.judge();
+        hall.act(1, RIPOSTE, 11);
+        Check.due("holder by a riposte of a parry in the phrase before", hall.holder(), -1);
+        hall.act(0, REMISE, 900);
+        Check.due("holder by a remise of a parry in the phrase before", hall.holder(), -1);
     }
 
     private static void withContactsAndWeapons() {

@@ -198,6 +198,10 @@ final class TableauTest {
             Check.refused("wins, a bye", Check.STATE, TableauTest::drawnUp, h -> h.wins(0, 0, who));
             Check.refused("wins, one is not there yet", Check.STATE, TableauTest::drawnUp, h -> h.wins(1, 0, who));
             Check.refused("wins, nobody is there yet", Check.STATE, TableauTest::drawnUp, h -> h.wins(2, 0, who));
+            Check.refused("wins, the first one is not there yet", Check.STATE, h -> {
+                drawnUp(h);
+                h.wins(1, 1, 0);
+            }, h -> h.wins(2, 0, who));
             Check.refused("wins, won", Check.STATE, h -> {
                 drawnUp(h);
                 h.wins(0, 1, 0);
