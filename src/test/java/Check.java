@@ -41,14 +41,19 @@ final class Check {
         }
     }
 
-    /** The call throws just that, and leaves a hall like its twin that never got the call. */
+    /**
+     * The call throws just that, and changes nothing: all that the hall holds is as it was, and it goes on
+     * like its twin that never got the call.
+     */
     static void refused(String what, Class<? extends RuntimeException> kind,
             Consumer<Phrasehall> setup, Function<Phrasehall, Object> call) {
         Phrasehall hall = new Phrasehall();
         Phrasehall twin = new Phrasehall();
         setup.accept(hall);
         setup.accept(twin);
+        String held = Inside.of(hall);
         due(what, answer(hall, call), kind.getSimpleName());
+        due(what + ", is all that it holds as it was", Inside.of(hall).equals(held) ? 1 : 0, 1);
         due(what + ", all that is told afterwards", Probe.all(hall), Probe.all(twin));
     }
 

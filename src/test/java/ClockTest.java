@@ -6,6 +6,8 @@ final class ClockTest {
 
     public static void main(String[] args) {
         counts();
+        secondsFromLeastToMost();
+        oneByOne();
         endsByTime();
         passiveThreeTimes();
         passiveEndsByTouches();
@@ -14,10 +16,14 @@ final class ClockTest {
         quietThroughADoubleThatGivesNothing();
         passiveAheadOfTime();
         drawAndMoreTime();
+        drawnSideWins();
         endsInMoreTime();
         passiveInMoreTime();
         passiveThirdAtTheVeryEnd();
         wrongCalls();
+        withoutABout();
+        tellsOfABout();
+        tellsOfBoutsThereAre();
         wrongQuestions();
         Check.done();
     }
@@ -28,6 +34,7 @@ final class ClockTest {
         }
     }
 
+    @Says(in = "clock", value = "Returns how many of its seconds are left then, 0 if it is over.")
     private static void counts() {
         Phrasehall hall = Halls.bout(SABRE, 5);
         Check.due("clock(1)", hall.clock(1), 179);
@@ -39,11 +46,48 @@ final class ClockTest {
         Check.due("clock of the next bout", hall.clock(1), 179);
     }
 
+    @Says(in = "clock", value = "`seconds`: 1 to 240")
+    private static void secondsFromLeastToMost() {
+        for (int seconds : new int[] {1, 2, 59, 179, 180, 239, 240}) {
+            Phrasehall hall = Halls.bout(SABRE, 45);
+            Halls.give(hall, 1, 1);
+            Check.due("clock(" + seconds + ")", hall.clock(seconds), Math.max(0, 180 - seconds));
+            Check.due("seconds of clock(" + seconds + ")", hall.ofBout(0, 3), Math.min(180, seconds));
+            Check.due("winner of clock(" + seconds + ")", hall.ofBout(0, 2), seconds < 180 ? NONE : 1);
+        }
+    }
+
+    @Says(in = "clock", value = "Lets seconds of the bout go by, one by one, as long as it is not over.")
+    private static void oneByOne() {
+        for (int first = 0; first < 2; first++) {
+            Phrasehall atOnce = Halls.with(2);
+            Phrasehall oneByOne = Halls.with(2);
+            for (Phrasehall hall : new Phrasehall[] {atOnce, oneByOne}) {
+                hall.begin(1, 0, EPEE, 9, NONE);
+                hall.clock(1 + 29 * first);
+                Halls.doubleTouch(hall);
+            }
+            int left = 1;
+            int steps = 0;
+            while (left > 0 && steps < 240) {
+                left = oneByOne.clock(1);
+                steps++;
+            }
+            Check.due("clock(240) at once", atOnce.clock(240), 0);
+            for (int what = 0; what < 6; what++) {
+                Check.due("ofBout " + what + " at once", atOnce.ofBout(0, what), oneByOne.ofBout(0, what));
+            }
+            Check.due("steps", steps + 1 + 29 * first, atOnce.ofBout(0, 3));
+        }
+    }
+
+    @Says(in = "Cards, clocks", value = "A bout has 180 seconds. When so many went by, it is over, if the touches are unlike;")
     private static void endsByTime() {
         for (int side = 0; side < 2; side++) {
             Phrasehall hall = Halls.bout(SABRE, 45);
             Halls.singleTouch(hall, side);
             Check.due("clock(179)", hall.clock(179), 1);
+            Check.due("on the piste at 179", hall.ofBout(0, 2), NONE);
             Halls.singleTouch(hall, side);
             Check.due("clock(240) at 179", hall.clock(240), 0);
             Check.due("seconds", hall.ofBout(0, 3), 180);
@@ -52,6 +96,7 @@ final class ClockTest {
         }
     }
 
+    @Says(in = "Cards, clocks", value = {"the bout is passive once more,", "the second time both sides get a touch,"})
     private static void passiveThreeTimes() {
         Phrasehall hall = Halls.bout(SABRE, 5);
         hall.clock(59);
@@ -71,6 +116,7 @@ final class ClockTest {
         told("the lower number on the side 1", other, 0, 1, 1, 1, 180, 3, NONE);
     }
 
+    @Says(in = "Cards, clocks", value = "the third time it is over, whether touches are like or not.")
     private static void passiveEndsByTouches() {
         Phrasehall unlike = Halls.bout(SABRE, 2);
         Halls.singleTouch(unlike, 1);
@@ -82,10 +128,22 @@ final class ClockTest {
         told("both touched at 0 of 1", like, 0, 1, 1, 1, 120, 2, NONE);
         Phrasehall third = Halls.bout(SABRE, 9);
         Halls.singleTouch(third, 1);
-        third.clock(180);
+        Check.due("ahead of the third time with unlike touches", third.clock(179), 1);
+        third.clock(1);
         told("third time with unlike touches", third, 0, 1, 2, 1, 180, 3, NONE);
+        Phrasehall early = Halls.with(2);
+        early.begin(1, 0, EPEE, 9, NONE);
+        early.clock(121);
+        Halls.doubleTouch(early);
+        early.clock(58);
+        Halls.doubleTouch(early);
+        early.clock(59);
+        told("one second ahead of the third time", early, 0, 3, 3, NONE, 238, 2, 0);
+        early.clock(1);
+        told("the third time with like touches", early, 0, 3, 3, 1, 239, 3, 0);
     }
 
+    @Says(in = "Cards, clocks", value = "counted anew from then, and from each time that it is so,")
     private static void passiveIsCountedAnew() {
         Phrasehall hall = Halls.bout(SABRE, 9);
         hall.clock(59);
@@ -100,9 +158,13 @@ final class ClockTest {
         told("time is over ahead of the second time", hall, 0, 2, 0, 0, 180, 1, NONE);
     }
 
+    @Says(in = "Cards, clocks", value = "When 60 seconds went by without a touch given by judging or by a card,")
     private static void whatBreaksTheQuiet() {
         quiet("a red card", SABRE, 1, h -> h.card(0, 2), 0);
         quiet("a red card of group 3", SABRE, 1, h -> h.card(1, 3), 0);
+        quiet("a red card of group 1", SABRE, 1, h -> h.card(0, 1) + h.card(0, 1), 0);
+        quiet("a single touch", SABRE, 1, h -> Halls.singleTouch(h, 1), 0);
+        quiet("judging of one who is off", Phrasehall.FOIL, 0, h -> h.hit(0, 0, 20, Phrasehall.OFF) + h.judge(), 1);
         quiet("a double", EPEE, 1, Halls::doubleTouch, 0);
         quiet("a yellow card", SABRE, 0, h -> h.card(0, 1), 1);
         quiet("judging that gives nothing", SABRE, 0, h -> h.judge(), 1);
@@ -129,6 +191,7 @@ final class ClockTest {
     }
 
     /** The second passivity and the 180 seconds come together: both touches come ahead of the time. */
+    @Says(in = "Cards, clocks", value = "which is looked at ahead of its time in each second:")
     private static void passiveAheadOfTime() {
         Phrasehall ended = secondTimeNextAt180(3);
         Check.due("both reach it at 180", ended.clock(1), 0);
@@ -171,10 +234,11 @@ final class ClockTest {
         return hall;
     }
 
+    @Says(in = "Cards, clocks", value = "otherwise a side is drawn, and there are 60 more;")
     private static void drawAndMoreTime() {
         for (int seed = 0; seed < 8; seed++) {
             Phrasehall hall = drawnAt180(seed);
-            Check.due("one second left", hall.ofBout(0, 3), 179);
+            told("one second left", hall, 0, 4, 4, NONE, 179, 0, NONE);
             Check.due("60 more", hall.clock(1), 60);
             int drawn = hall.ofBout(0, 5);
             told("drawn", hall, 0, 4, 4, NONE, 180, 0, drawn);
@@ -193,6 +257,31 @@ final class ClockTest {
         Check.due("seconds stop at 240", through.ofBout(0, 3), 240);
     }
 
+    /** Whoever has the lower number: the seed 0 draws the side 0, and 3 the side 1. */
+    @Says(in = "Cards, clocks", value = "when those went by, the side that was drawn wins.")
+    private static void drawnSideWins() {
+        for (int left = 0; left < 2; left++) {
+            for (int seed = 0; seed <= 3; seed += 3) {
+                Phrasehall hall = Halls.with(2);
+                hall.begin(left, 1 - left, EPEE, 9, NONE);
+                hall.seed(seed);
+                hall.clock(121);
+                Halls.doubleTouch(hall);
+                Check.due("drawn at 180", hall.clock(59), 60);
+                Halls.doubleTouch(hall);
+                Check.due("at 239", hall.clock(59), 1);
+                told("at 239", hall, 0, 3, 3, NONE, 239, 2, seed / 3);
+                Halls.doubleTouch(hall);
+                hall.act(1, Phrasehall.ATTACK, 5);
+                Check.due("at 240", hall.clock(1), 0);
+                told("at 240", hall, 0, 4, 4, seed / 3, 240, 2, seed / 3);
+                Check.due("the phrase is empty", hall.holder(), NONE);
+                Check.due("no bout then", Check.answer(hall, h -> h.clock(1)), "IllegalStateException");
+            }
+        }
+    }
+
+    @Says(in = "Cards, clocks", value = "the first touch that makes them unlike ends it then;")
     private static void endsInMoreTime() {
         for (int side = 0; side < 2; side++) {
             Phrasehall judged = drawnAt180(0);
@@ -265,20 +354,72 @@ final class ClockTest {
         hall.begin(0, 1, SABRE, 5, NONE);
     }
 
+    @Says(in = "clock", value = "Throws `IllegalArgumentException` if seconds is out of range")
     private static void wrongCalls() {
         for (int seconds : new int[] {0, -1, 241, Integer.MIN_VALUE, Integer.MAX_VALUE}) {
             Check.refused("clock " + seconds, Check.ARGUMENT, ClockTest::onPiste, h -> h.clock(seconds));
             Check.refused("clock " + seconds + " without a bout", Check.ARGUMENT, h -> Halls.take(h, 2),
                     h -> h.clock(seconds));
         }
-        Check.refused("clock without a bout", Check.STATE, h -> Halls.take(h, 2), h -> h.clock(1));
     }
 
-    private static void wrongQuestions() {
+    @Says(in = "clock", value = "Throws `IllegalStateException` if no bout is on the piste")
+    private static void withoutABout() {
+        Check.refused("clock in a new hall", Check.STATE, h -> { }, h -> h.clock(240));
+        Check.refused("clock without a bout", Check.STATE, h -> Halls.take(h, 2), h -> h.clock(1));
+        Check.refused("clock when over", Check.STATE, h -> {
+            onPiste(h);
+            h.clock(180);
+        }, h -> h.clock(1));
+        Check.refused("clock when ended", Check.STATE, h -> {
+            onPiste(h);
+            h.clock(59);
+            h.end();
+        }, h -> h.clock(1));
+    }
+
+    @Says(in = "ofBout", value = {"Tells of a bout.", "Returns as told.",
+        "`what`: 0 and 1 the touches of the sides, 2 the side that won, NONE if it is on the piste, 3 how many seconds went"
+            + " by, 4 how many times it was passive, 5 the side that was drawn, NONE without"})
+    private static void tellsOfABout() {
+        Phrasehall hall = Halls.with(2);
+        hall.seed(3);
+        hall.begin(0, 1, EPEE, 9, NONE);
+        told("new", hall, 0, 0, 0, NONE, 0, 0, NONE);
+        hall.clock(121);
+        told("passive twice", hall, 0, 1, 1, NONE, 121, 2, NONE);
+        Halls.doubleTouch(hall);
+        hall.clock(59);
+        told("drawn", hall, 0, 2, 2, NONE, 180, 2, 1);
+        Halls.doubleTouch(hall);
+        hall.clock(7);
+        Halls.singleTouch(hall, 0);
+        told("over", hall, 0, 4, 3, 0, 187, 2, 1);
+        hall.begin(1, 0, SABRE, 2, NONE);
+        Halls.give(hall, 1, 2);
+        told("the next", hall, 1, 0, 2, 1, 0, 0, NONE);
+        told("the one before", hall, 0, 4, 3, 0, 187, 2, 1);
+    }
+
+    @Says(in = "ofBout", value = {"`bout`: the number of a bout",
+        "Throws `IndexOutOfBoundsException` if there is no such bout"})
+    private static void tellsOfBoutsThereAre() {
+        Check.refused("ofBout of a new hall", Check.INDEX, h -> { }, h -> h.ofBout(0, 0));
+        Phrasehall hall = new Phrasehall();
+        onPiste(hall);
+        hall.end();
+        Check.due("the last one", hall.ofBout(0, 2), 0);
+        Check.due("the one that will be", Check.answer(hall, h -> h.ofBout(1, 2)), "IndexOutOfBoundsException");
+        hall.begin(0, 1, SABRE, 5, NONE);
+        Check.due("the one that was to be", hall.ofBout(1, 2), NONE);
         int[][] noBout = {{-1, 0}, {1, 0}, {1, 6}, {80, 0}, {Integer.MIN_VALUE, -1}, {Integer.MAX_VALUE, 0}};
         for (int[] w : noBout) {
             Check.refused("ofBout " + w[0] + " " + w[1], Check.INDEX, ClockTest::onPiste, h -> h.ofBout(w[0], w[1]));
         }
+    }
+
+    @Says(in = "ofBout", value = "Throws `IllegalArgumentException` if what is out of range")
+    private static void wrongQuestions() {
         for (int what : new int[] {-1, 6, Integer.MIN_VALUE, Integer.MAX_VALUE}) {
             Check.refused("ofBout 0 " + what, Check.ARGUMENT, ClockTest::onPiste, h -> h.ofBout(0, what));
         }

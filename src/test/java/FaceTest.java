@@ -46,7 +46,7 @@ final class FaceTest {
         Check.due("class is public", Modifier.isPublic(modifiers) ? 1 : 0, 1);
         Check.due("class is final", Modifier.isFinal(modifiers) ? 1 : 0, 1);
         Check.due("methods", methods().toString(), new TreeSet<>(Arrays.asList(METHODS)).toString());
-        Check.due("constants", constants().toString(), new TreeSet<>(Arrays.asList(CONSTANTS)).toString());
+        checkConstants();
         Constructor<?>[] constructors = Phrasehall.class.getDeclaredConstructors();
         Check.due("constructors", constructors.length, 1);
         Check.due("constructor is public", Modifier.isPublic(constructors[0].getModifiers()) ? 1 : 0, 1);
@@ -70,6 +70,15 @@ final class FaceTest {
             found.add(text.toString());
         }
         return found;
+    }
+
+    @Says(in = "constants", value = {"The constants: `NONE = -1`: None. `FOIL = 0, EPEE = 1, SABRE = 2`: Weapons.",
+        "`ATTACK = 0, LINE = 1, BEAT = 2, PARRY = 3, RIPOSTE = 4, REMISE = 5, MISS = 6`: Actions.",
+        "`ON = 0, OFF = 1, GROUND = 2`: Targets; lamps that are ON or OFF.",
+        "`NO_LAMP = 0, SINGLE = 1, OFF_TARGET = 2, DOUBLE = 3, TOGETHER = 4, IN_TIME = 5, BY_RIGHT = 6`: Reasons.",
+        "`YELLOW = 1, RED = 2, BLACK = 3`: Cards."})
+    private static void checkConstants() throws IllegalAccessException {
+        Check.due("constants", constants().toString(), new TreeSet<>(Arrays.asList(CONSTANTS)).toString());
     }
 
     private static TreeSet<String> constants() throws IllegalAccessException {

@@ -15,15 +15,29 @@ final class JudgeTest {
         onlyActionsAheadOfTheLaterContact();
         reasonsStay();
         endsTheBout();
+        withoutABout();
+        Check.done();
+    }
+
+    @Says(in = "judge", value = "Throws `IllegalStateException` if no bout is on the piste")
+    private static void withoutABout() {
+        Check.refused("judge in a new hall", Check.STATE, h -> { }, h -> h.judge());
         Check.refused("judge without a bout", Check.STATE, h -> Halls.take(h, 2), h -> h.judge());
         Check.refused("judge when over", Check.STATE, h -> {
             Halls.take(h, 2);
             h.begin(0, 1, SABRE, 1, Phrasehall.NONE);
             Halls.singleTouch(h, 0);
         }, h -> h.judge());
-        Check.done();
+        Check.refused("judge when ended", Check.STATE, h -> {
+            Halls.take(h, 2);
+            h.begin(0, 1, SABRE, 1, Phrasehall.NONE);
+            h.hit(0, 0, 1, ON);
+            h.end();
+        }, h -> h.judge());
     }
 
+    @Says(in = "judge", value = {"Judges the phrase, which is empty then.",
+        "Returns the sides that get a touch: 1 for the side 0, 2 for the side 1, added."})
     private static void judged(String what, Phrasehall hall, int sides, int reason) {
         int left = hall.ofBout(0, 0);
         int right = hall.ofBout(0, 1);
@@ -31,8 +45,11 @@ final class JudgeTest {
         Check.due("reason, " + what, hall.reason(), reason);
         Check.due("touches of the side 0, " + what, hall.ofBout(0, 0) - left, sides & 1);
         Check.due("touches of the side 1, " + what, hall.ofBout(0, 1) - right, sides >> 1);
+        Check.due("holder of the empty phrase, " + what, hall.holder(), Phrasehall.NONE);
+        Check.due("lamps of the empty phrase, " + what, hall.lamp(0) + hall.lamp(1), 2 * Phrasehall.NONE);
     }
 
+    @Says(in = "Judging", value = "Without a lamp nothing is given, reason NO_LAMP.")
     private static void withoutLamps() {
         for (int weapon = 0; weapon < 3; weapon++) {
             Phrasehall hall = Halls.bout(weapon, 5);
@@ -40,9 +57,15 @@ final class JudgeTest {
             hall.act(0, ATTACK, 1);
             hall.hit(0, 1, 1000, GROUND);
             judged("ground", hall, 0, Phrasehall.NO_LAMP);
+            hall.hit(0, 1, weapon == FOIL ? 13 : weapon == EPEE ? 1 : 0, ON);
+            judged("too short", hall, 0, Phrasehall.NO_LAMP);
+            hall.hit(0, 1, weapon == FOIL ? 14 : weapon == EPEE ? 2 : 1, ON);
+            judged("just long enough", hall, 1, Phrasehall.SINGLE);
         }
     }
 
+    @Says(in = "Judging", value = "With one lamp that is ON its side gets a touch, SINGLE; with one that is OFF nothing is"
+            + " given, OFF_TARGET.")
     private static void withOneLamp() {
         for (int weapon = 0; weapon < 3; weapon++) {
             for (int side = 0; side < 2; side++) {
@@ -59,6 +82,7 @@ final class JudgeTest {
         }
     }
 
+    @Says(in = "Judging", value = "With both lamps: with an EPEE both get a touch, DOUBLE;")
     private static void doubles() {
         Phrasehall hall = Halls.bout(EPEE, 5);
         hall.act(0, ATTACK, 0);
@@ -70,7 +94,22 @@ final class JudgeTest {
         judged("too late for a double", hall, 2, Phrasehall.SINGLE);
     }
 
+    @Says(in = "Judging", value = "but nothing is given, DOUBLE all the same, if both would have as many as the bout goes to"
+            + " by it, or more.")
     private static void doublesAtTheEnd() {
+        for (int left = 0; left < 4; left++) {
+            for (int right = 0; right < 4; right++) {
+                Phrasehall any = Halls.bout(EPEE, 4);
+                Halls.give(any, 0, left);
+                Halls.give(any, 1, right);
+                any.hit(1, 0, 2, ON);
+                any.hit(0, 0, 2, ON);
+                judged("double at " + left + " and " + right + " of 4", any, left == 3 && right == 3 ? 0 : 3,
+                        Phrasehall.DOUBLE);
+                boolean over = left == 3 != (right == 3);
+                Check.due("winner of it", any.ofBout(0, 2), over ? left == 3 ? 0 : 1 : Phrasehall.NONE);
+            }
+        }
         Phrasehall hall = Halls.bout(EPEE, 3);
         Halls.doubleTouch(hall);
         Halls.doubleTouch(hall);
@@ -111,6 +150,8 @@ final class JudgeTest {
         return hall;
     }
 
+    @Says(in = "Judging", value = {"if nobody has it, nothing is given, TOGETHER.",
+        "Otherwise who has it gets a touch, if their lamp is ON, BY_RIGHT,"})
     private static void byRight() {
         for (int side = 0; side < 2; side++) {
             judged("by right, foil", met(FOIL, side, ATTACK, 0, new int[] {50, ON}, new int[] {60, ON}),
@@ -123,12 +164,29 @@ final class JudgeTest {
                     0, Phrasehall.TOGETHER);
             judged("together, off", met(FOIL, side, MISS, 0, new int[] {50, OFF}, new int[] {60, ON}),
                     0, Phrasehall.TOGETHER);
+            judged("together, both off", met(FOIL, side, MISS, 0, new int[] {50, OFF}, new int[] {60, OFF}),
+                    0, Phrasehall.TOGETHER);
+            judged("by right of one, the other off", met(FOIL, side, ATTACK, 0, new int[] {60, ON}, new int[] {50, OFF}),
+                    1 << side, Phrasehall.BY_RIGHT);
             judged("together, long ahead", met(FOIL, side, MISS, 0, new int[] {50, ON}, new int[] {250, ON}),
                     0, Phrasehall.TOGETHER);
         }
     }
 
+    @Says(in = "Judging", value = "If the other lamp is ON, and its contact was 150 or more ahead of that of who has it, the"
+            + " other side gets a touch, IN_TIME.")
     private static void inTime() {
+        int[] lockout = {300, 0, 170};
+        for (int weapon = FOIL; weapon <= SABRE; weapon += 2) {
+            for (int ahead : new int[] {0, 1, 149, 150, 151, lockout[weapon] - 1, lockout[weapon], lockout[weapon] + 1}) {
+                boolean locked = ahead > lockout[weapon];
+                Phrasehall hall = met(weapon, 0, ATTACK, 0, new int[] {50 + ahead, ON}, new int[] {50, ON});
+                judged("weapon " + weapon + ", " + ahead + " ahead", hall, ahead >= 150 ? 2 : 1,
+                        locked ? Phrasehall.SINGLE : ahead >= 150 ? Phrasehall.IN_TIME : Phrasehall.BY_RIGHT);
+            }
+        }
+        judged("own contact 150 ahead", met(FOIL, 0, ATTACK, 0, new int[] {50, ON}, new int[] {200, ON}), 1,
+                Phrasehall.BY_RIGHT);
         for (int side = 0; side < 2; side++) {
             int other = 1 << (1 - side);
             judged("in time, foil", met(FOIL, side, ATTACK, 0, new int[] {200, ON}, new int[] {50, ON}),
@@ -144,9 +202,12 @@ final class JudgeTest {
         }
     }
 
+    @Says(in = "Judging", value = "and nothing is given, if it is OFF, OFF_TARGET.")
     private static void offTarget() {
         for (int side = 0; side < 2; side++) {
             judged("off by right", met(FOIL, side, ATTACK, 0, new int[] {60, OFF}, new int[] {50, ON}),
+                    0, Phrasehall.OFF_TARGET);
+            judged("off by right, 149 behind", met(FOIL, side, ATTACK, 0, new int[] {199, OFF}, new int[] {50, ON}),
                     0, Phrasehall.OFF_TARGET);
             judged("both off", met(FOIL, side, ATTACK, 0, new int[] {260, OFF}, new int[] {50, OFF}),
                     0, Phrasehall.OFF_TARGET);
@@ -154,6 +215,8 @@ final class JudgeTest {
     }
 
     /** In the row, not by the time: what stands behind the later contact does not count. */
+    @Says(in = "Judging", value = "With a FOIL or SABRE it goes by who has right of way behind all actions that are ahead of"
+            + " the later one of both registered contacts in the row:")
     private static void onlyActionsAheadOfTheLaterContact() {
         Phrasehall hall = Halls.bout(SABRE, 5);
         hall.hit(0, 50, 1, ON);
@@ -172,8 +235,21 @@ final class JudgeTest {
         hall.hit(0, 60, 1, ON);
         hall.hit(0, 70, 1, ON);
         judged("contacts that are not registered", hall, 1, Phrasehall.BY_RIGHT);
+        hall.act(0, ATTACK, 0);
+        hall.hit(1, 50, 1, ON);
+        hall.hit(0, 50, 1, ON);
+        hall.act(0, MISS, 60);
+        hall.hit(0, 70, 1, ON);
+        hall.hit(1, 70, 1, ON);
+        judged("behind both, ahead of some that are not registered", hall, 1, Phrasehall.BY_RIGHT);
+        hall.hit(1, 0, 1, ON);
+        hall.hit(0, 0, 0, ON);
+        hall.act(0, ATTACK, 0);
+        hall.hit(0, 0, 1, ON);
+        judged("behind one that is too short", hall, 1, Phrasehall.BY_RIGHT);
     }
 
+    @Says(in = "reason", value = "Returns the reason of the last judging; NONE ahead of the first one.")
     private static void reasonsStay() {
         Phrasehall hall = Halls.bout(SABRE, 5);
         Check.due("reason ahead of the first judging", hall.reason(), -1);
@@ -190,6 +266,7 @@ final class JudgeTest {
         Check.due("reason of the next judging", hall.reason(), Phrasehall.NO_LAMP);
     }
 
+    @Says(in = "Cards, clocks", value = "A bout is over, too, as soon as a side has as many touches as it goes to, or more.")
     private static void endsTheBout() {
         Phrasehall hall = Halls.bout(SABRE, 2);
         Halls.singleTouch(hall, 1);

@@ -15,6 +15,8 @@ final class RankTest {
         Check.done();
     }
 
+    @Says(in = "rank", value = {"Returns the fencer with a rank of a pool.", "`place`: 0 for the first one",
+        "Returns the fencer; NONE, if there are not so many."})
     private static void ranks(String what, Phrasehall hall, int... due) {
         for (int place = 0; place < due.length; place++) {
             Check.due("rank " + place + ", " + what, hall.rank(0, place), due[place]);
@@ -38,6 +40,7 @@ final class RankTest {
         ranks("a few", some, 2, 5, 11);
     }
 
+    @Says(in = "Pools, tableaux", value = {"Its ranks: by wins divided by bouts,", "greater ones first;"})
     private static void byQuotient() {
         Phrasehall hall = pooled(3);
         Halls.fence(hall, 0, 2, 1, 1, 0);
@@ -50,6 +53,7 @@ final class RankTest {
         ranks("halves and thirds", hall, 2, 0, 1);
     }
 
+    @Says(in = "Pools, tableaux", value = "just so,")
     private static void byQuotientJustSo() {
         Phrasehall hall = pooled(4);
         win(hall, 0, 2, 5, 17);
@@ -64,6 +68,7 @@ final class RankTest {
         ranks("2 of 6 and 1 of 3", like, 2, 3, 1, 0);
     }
 
+    @Says(in = "Pools, tableaux", value = "0 without bouts,")
     private static void byQuotientAgainstNoBouts() {
         for (int winner = 0; winner < 3; winner++) {
             Phrasehall hall = pooled(3);
@@ -85,6 +90,7 @@ final class RankTest {
         }
     }
 
+    @Says(in = "Pools, tableaux", value = "then by touches given less those got;")
     private static void byBalance() {
         Phrasehall hall = pooled(4);
         Halls.fence(hall, 0, 0, 1, 5, 4);
@@ -93,6 +99,7 @@ final class RankTest {
         ranks("balance ahead of touches", hall, 2, 0, 1, 3);
     }
 
+    @Says(in = "Pools, tableaux", value = {"then by touches given;", "then lower numbers."})
     private static void byTouchesGiven() {
         Phrasehall hall = pooled(4);
         Halls.fence(hall, 0, 0, 1, 3, 2);
@@ -104,6 +111,7 @@ final class RankTest {
         ranks("lower numbers", like, 1, 2, 0, 3);
     }
 
+    @Says(in = "Pools, tableaux", value = "Who withdrew has no rank.")
     private static void withoutTheWithdrawn() {
         Phrasehall hall = pooled(4);
         Halls.fence(hall, 0, 3, 0, 1, 0);
@@ -127,13 +135,17 @@ final class RankTest {
         ranks("over", hall, 1, 0);
     }
 
+    @Says(in = "rank", value = {"`pool`: the number of a pool",
+        "Throws `IndexOutOfBoundsException` if there is no such pool, or place is below 0"})
     private static void wrongCalls() {
-        int[][] wrong = {{-1, 0}, {1, 0}, {6, 0}, {0, -1}, {0, Integer.MIN_VALUE}, {Integer.MAX_VALUE, 0}};
+        int[][] wrong = {{-1, 0}, {1, 0}, {6, 0}, {0, -1}, {0, -2}, {0, Integer.MIN_VALUE}, {Integer.MAX_VALUE, 0},
+            {Integer.MIN_VALUE, 0}, {1, -1}, {1, Integer.MAX_VALUE}};
         for (int[] w : wrong) {
             Check.refused("rank " + w[0] + " " + w[1], Check.INDEX, h -> {
                 Halls.take(h, 3);
                 h.pool(7);
             }, h -> h.rank(w[0], w[1]));
         }
+        Check.refused("rank without a pool", Check.INDEX, h -> Halls.take(h, 2), h -> h.rank(0, 0));
     }
 }

@@ -7,6 +7,8 @@ import java.util.Random;
  */
 final class RunsTest {
     private static final int RUNS = 6000;
+    /** In so many of each hundred runs it is looked inside the hall, which takes its time. */
+    private static final int LOOKED_INTO = 5;
     private static final int CALLS = 512;
     private static final String[] CALL_NAMES = {"fencer", "begin", "act", "hit", "judge", "card", "clock", "end", "seed",
         "pool", "withdraw", "tableau", "wins", "lamp", "holder", "reason", "ofBout", "ofPool", "ofPoolAnew", "rank",
@@ -54,8 +56,11 @@ final class RunsTest {
         Check.done();
     }
 
+    @Says(in = "Terms", value = "A call that throws an exception changes nothing;")
     private void run(int seed, int[] answered, int[] thrown) {
         int start = random.nextInt(13);
+        boolean looksInside = seed % 100 < LOOKED_INTO;
+        String held = looksInside ? Inside.of(hall) : "";
         for (int i = 0; i < CALLS; i++) {
             int call = i < start ? 0 : i < start + 2 ? 9 : pick();
             int[] given = arguments(call);
@@ -67,6 +72,13 @@ final class RunsTest {
                 return;
             }
             boolean failed = got.endsWith("Exception");
+            String now = looksInside ? Inside.of(hall) : "";
+            if (failed && !now.equals(held)) {
+                Check.report("seed " + seed + ", call " + i + ", " + CALL_NAMES[call] + Arrays.toString(given)
+                        + " changed what the hall holds, though it was refused");
+                return;
+            }
+            held = now;
             (failed ? thrown : answered)[call]++;
             fencers += call == 0 && !failed ? 1 : 0;
             pools += call == 9 && !failed ? 1 : 0;

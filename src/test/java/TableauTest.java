@@ -5,12 +5,16 @@ final class TableauTest {
     public static void main(String[] args) {
         sizes();
         orderOfRanks();
+        orderOfTwelve();
         byesOf11();
+        byesOfEverySize();
         fencedOut();
         byRanksAsTheyAreThen();
         inPlaceOfTheOneBefore();
+        fromTwoRanksOn();
         wrongTableaux();
         wrongMatches();
+        withoutATableau();
         wrongSides();
         wrongWins();
         Check.done();
@@ -22,6 +26,9 @@ final class TableauTest {
         return hall;
     }
 
+    @Says(in = "tableau", value = {"Makes a tableau of a pool,", "Returns how many places it has."})
+    @Says(in = "Pools, tableaux", value = {"of 2, 4, 8 or 16 places, the least that are enough;",
+        "the round 0 has half as many matches:"})
     private static void sizes() {
         int[] due = {0, 0, 2, 4, 4, 8, 8, 8, 8, 16, 16, 16, 16};
         for (int fencers = 2; fencers <= 12; fencers++) {
@@ -48,6 +55,9 @@ final class TableauTest {
         }
     }
 
+    @Says(in = "Pools, tableaux", value = "the match k is of the fencers of the ranks that stand at the places 2 k and 2 k"
+            + " and 1 of an order of ranks: that of 2 places is 0, 1, and that of twice as many, 2 m, is made from that of m"
+            + " by putting 2 m less 1 and less p right behind each p.")
     private static void orderOfRanks() {
         Phrasehall two = ready(2);
         two.tableau(0);
@@ -63,6 +73,46 @@ final class TableauTest {
         for (int match = 0; match < 4; match++) {
             meeting(eight, 0, match, due[match][0], due[match][1], NONE);
         }
+    }
+
+    /** Of 16 places: 0 15 7 8 3 12 4 11 1 14 6 9 2 13 5 10; the ranks 12 to 15 are nobody's. */
+    private static void orderOfTwelve() {
+        Phrasehall hall = Halls.with(12);
+        hall.pool(4095);
+        Halls.fence(hall, 0, 11, 0, 1, 0);
+        // 11 is ahead of all, and 0 behind all
+        Check.due("tableau of twelve", hall.tableau(0), 16);
+        int[][] due = {{11, NONE, 11}, {7, 8, NONE}, {3, NONE, 3}, {4, 0, NONE}, {1, NONE, 1}, {6, 9, NONE}, {2, NONE, 2},
+            {5, 10, NONE}};
+        for (int match = 0; match < 8; match++) {
+            meeting(hall, 0, match, due[match]);
+        }
+    }
+
+    /** The first ranks, as many as places are left over, have won at once, and nobody else. */
+    @Says(in = "Pools, tableaux", value = "Who has no other one has won at once.")
+    private static void byesOfEverySize() {
+        for (int fencers = 2; fencers <= 12; fencers++) {
+            Phrasehall hall = ready(fencers);
+            int places = hall.tableau(0);
+            int byes = 0;
+            for (int match = 0; match < places / 2; match++) {
+                int one = hall.meets(0, match, 0);
+                boolean alone = hall.meets(0, match, 1) == NONE;
+                byes += alone ? 1 : 0;
+                Check.due("alone of " + fencers + ", " + one, alone ? 1 : 0, one < places - fencers ? 1 : 0);
+                Check.due("won at once of " + fencers + ", " + one, hall.meets(0, match, 2), alone ? one : NONE);
+                if (places > 2) {
+                    Check.due("in the next round at once", hall.meets(1, match / 2, match % 2), alone ? one : NONE);
+                }
+            }
+            Check.due("byes of " + fencers, byes, places - fencers);
+        }
+        Phrasehall waiting = ready(3);
+        waiting.tableau(0);
+        meeting(waiting, 1, 0, 0, NONE, NONE);
+        Check.due("alone in the round 1, not won yet", Check.answer(waiting, h -> h.wins(1, 0, 0)),
+                "IllegalStateException");
     }
 
     private static void byesOf11() {
@@ -82,6 +132,11 @@ final class TableauTest {
         meeting(hall, 2, 0, NONE, 3, NONE);
     }
 
+    @Says(in = "Pools, tableaux", value = "The winners of the matches 2 k and 2 k and 1 are in the match k of the next"
+            + " round.")
+    @Says(in = "wins", value = {"Tells who wins a match of the tableau.", "Returns the fencer who wins."})
+    @Says(in = "meets", value = {"Returns a fencer of a match of the tableau.",
+        "Returns the fencer; NONE without, or not yet."})
     private static void fencedOut() {
         Phrasehall hall = ready(12);
         Check.due("tableau", hall.tableau(0), 16);
@@ -104,6 +159,7 @@ final class TableauTest {
         Check.due("the final is won", Check.answer(hall, h -> h.wins(3, 0, 1)), "IllegalStateException");
     }
 
+    @Says(in = "Pools, tableaux", value = "A tableau is made of the ranks of a pool as they are then:")
     private static void byRanksAsTheyAreThen() {
         Phrasehall hall = Halls.with(6);
         hall.pool(1 << 5 | 1 << 3 | 1 << 1 | 1);
@@ -124,6 +180,7 @@ final class TableauTest {
         meeting(hall, 1, 0, 5, 1, 5);
     }
 
+    @Says(in = "tableau", value = "in place of the one before.")
     private static void inPlaceOfTheOneBefore() {
         Phrasehall hall = Halls.with(12);
         hall.pool(4095);
@@ -153,10 +210,28 @@ final class TableauTest {
         hall.tableau(0);
     }
 
+    @Says(in = "tableau", value = {"`pool`: the number of a pool",
+        "Throws `IndexOutOfBoundsException` if there is no such pool"})
     private static void wrongTableaux() {
         for (int pool : new int[] {-1, 2, 6, Integer.MIN_VALUE, Integer.MAX_VALUE}) {
             Check.refused("tableau " + pool, Check.INDEX, TableauTest::drawnUp, h -> h.tableau(pool));
         }
+        Check.refused("tableau without a pool", Check.INDEX, h -> Halls.take(h, 2), h -> h.tableau(0));
+        Phrasehall hall = new Phrasehall();
+        drawnUp(hall);
+        Check.due("tableau of the last pool", hall.tableau(1), 2);
+    }
+
+    @Says(in = "tableau", value = "Throws `IllegalStateException` if fewer than 2 have a rank")
+    private static void fromTwoRanksOn() {
+        Phrasehall hall = Halls.with(3);
+        hall.pool(7);
+        hall.withdraw(0, 1);
+        Check.due("tableau of two that are left", hall.tableau(0), 2);
+        meeting(hall, 0, 0, 0, 2, NONE);
+        hall.withdraw(0, 0);
+        Check.due("tableau of one that is left", Check.answer(hall, h -> h.tableau(0)), "IllegalStateException");
+        meeting(hall, 0, 0, 0, 2, NONE);
         Check.refused("tableau of one", Check.STATE, h -> {
             drawnUp(h);
             h.withdraw(1, 0);
@@ -168,6 +243,10 @@ final class TableauTest {
         }, h -> h.tableau(1));
     }
 
+    @Says(in = "wins", value = {"`round`: from 0 on", "`match`: from 0 on",
+        "Throws `IndexOutOfBoundsException` if there is no such match"})
+    @Says(in = "meets", value = {"`round`: from 0 on", "`match`: from 0 on",
+        "Throws `IndexOutOfBoundsException` if there is no such match"})
     private static void wrongMatches() {
         int[][] wrong = {{-1, 0}, {0, -1}, {0, 4}, {1, 2}, {2, 1}, {3, 0}, {4, 0}, {31, 0}, {32, 0}, {33, 1},
             {Integer.MAX_VALUE, 0}, {0, Integer.MAX_VALUE}, {Integer.MIN_VALUE, 0}};
@@ -178,20 +257,45 @@ final class TableauTest {
             Check.refused("meets " + what, Check.INDEX, TableauTest::drawnUp, h -> h.meets(w[0], w[1], 0));
             Check.refused("meets, side too, " + what, Check.INDEX, TableauTest::drawnUp, h -> h.meets(w[0], w[1], 9));
         }
+        Phrasehall hall = new Phrasehall();
+        drawnUp(hall);
+        meeting(hall, 0, 3, 2, NONE, 2);
+        meeting(hall, 1, 1, 1, 2, NONE);
+        meeting(hall, 2, 0, NONE, NONE, NONE);
+        Check.due("wins of the last match of the round 1", hall.wins(1, 1, 1), 2);
+    }
+
+    private static void withoutATableau() {
         Check.refused("wins without a tableau", Check.INDEX, h -> Halls.take(h, 2), h -> h.wins(0, 0, 0));
         Check.refused("meets without a tableau", Check.INDEX, h -> Halls.take(h, 2), h -> h.meets(0, 0, 0));
     }
 
+    @Says(in = "wins", value = {"`side`: 0 for the first one, 1 for the other one",
+        "Throws `IllegalArgumentException` if side is out of range"})
+    @Says(in = "meets", value = {"`side`: 0 for the first one, 1 for the other one, 2 for the one who won",
+        "Throws `IllegalArgumentException` if side is out of range"})
     private static void wrongSides() {
+        for (int side = 0; side < 2; side++) {
+            Phrasehall hall = new Phrasehall();
+            drawnUp(hall);
+            meeting(hall, 0, 1, 3, 4, NONE);
+            Check.due("wins 0 1 " + side, hall.wins(0, 1, side), 3 + side);
+            meeting(hall, 0, 1, 3, 4, 3 + side);
+        }
         for (int side : new int[] {-1, 3, Integer.MIN_VALUE, Integer.MAX_VALUE}) {
             Check.refused("meets 0 0 " + side, Check.ARGUMENT, TableauTest::drawnUp, h -> h.meets(0, 0, side));
         }
         for (int side : new int[] {-1, 2, Integer.MIN_VALUE, Integer.MAX_VALUE}) {
             Check.refused("wins 0 1 " + side, Check.ARGUMENT, TableauTest::drawnUp, h -> h.wins(0, 1, side));
+            Check.refused("wins of one without both " + side, Check.ARGUMENT, TableauTest::drawnUp,
+                    h -> h.wins(1, 0, side));
+            Check.refused("no match ahead of the side " + side, Check.INDEX, TableauTest::drawnUp,
+                    h -> h.wins(0, 4, side));
             Check.refused("wins of a won one " + side, Check.ARGUMENT, TableauTest::drawnUp, h -> h.wins(0, 0, side));
         }
     }
 
+    @Says(in = "wins", value = "Throws `IllegalStateException` if it does not have both yet, or is won")
     private static void wrongWins() {
         for (int side = 0; side < 2; side++) {
             int who = side;
