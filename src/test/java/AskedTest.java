@@ -18,7 +18,7 @@ final class AskedTest {
                     Probe.ask(asked);
                 }
             }
-            Check.due("all that is told, weapon " + weapon, Probe.all(asked), Probe.all(twin));
+            Check.alike("all that is told, weapon " + weapon, Probe.all(asked), Probe.all(twin));
         }
     }
 

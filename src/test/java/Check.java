@@ -54,7 +54,20 @@ final class Check {
         String held = Inside.of(hall);
         due(what, answer(hall, call), kind.getSimpleName());
         due(what + ", is all that it holds as it was", Inside.of(hall).equals(held) ? 1 : 0, 1);
-        due(what + ", all that is told afterwards", Probe.all(hall), Probe.all(twin));
+        alike(what + ", all that is told afterwards", Probe.all(hall), Probe.all(twin));
+    }
+
+    /** Rows of answers; only the first one that differs is told, as the rows are long. */
+    static void alike(String what, String got, String want) {
+        String[] answers = got.split(" ");
+        String[] dues = want.split(" ");
+        due(what + ", how many", answers.length, dues.length);
+        for (int i = 0; i < Math.min(answers.length, dues.length); i++) {
+            if (!answers[i].equals(dues[i])) {
+                due(what + ", answer " + i, answers[i], dues[i]);
+                return;
+            }
+        }
     }
 
     static void done() {

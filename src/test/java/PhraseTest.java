@@ -68,23 +68,28 @@ final class PhraseTest {
     @Says(in = "act", value = "time is less than that of the one ahead of it,")
     @Says(in = "hit", value = "time is less than that of the one ahead of it,")
     private static void timesDoNotGoBack() {
-        for (int mixed = 0; mixed < 4; mixed++) {
-            boolean first = mixed < 2;
-            boolean second = mixed % 2 == 0;
+        for (int row = 0; row < 12; row++) {
+            boolean first = row % 2 == 0;
+            boolean second = row / 2 % 2 == 0;
+            int others = row / 4;
             for (int time : new int[] {1, 50, 1000000}) {
-                Phrasehall hall = Halls.bout(Phrasehall.SABRE, 5);
-                put(hall, !first, 0);
-                put(hall, first, time);
-                Check.due("at the time of the one ahead", put(hall, second, time), 3);
+                Phrasehall hall = new Phrasehall();
+                startRow(hall, others, first, time);
+                Check.due("at the time of the one ahead", put(hall, second, time), others + 2);
                 for (int late : new int[] {time - 1, 0}) {
-                    Check.refused("less by " + (time - late), Check.STATE, h -> {
-                        onPiste(h);
-                        put(h, !first, 0);
-                        put(h, first, time);
-                    }, h -> put(h, second, late));
+                    Check.refused("less by " + (time - late) + " behind " + (others + 1), Check.STATE,
+                            h -> startRow(h, others, first, time), h -> put(h, second, late));
                 }
             }
         }
+    }
+
+    private static void startRow(Phrasehall hall, int others, boolean action, int time) {
+        onPiste(hall);
+        for (int i = 0; i < others; i++) {
+            put(hall, !action, 0);
+        }
+        put(hall, action, time);
     }
 
     private static void fill(Phrasehall hall, int entries, int time) {
