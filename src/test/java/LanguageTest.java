@@ -1,7 +1,11 @@
 import java.io.IOException;
+import java.lang.reflect.Field;
+import java.lang.reflect.Method;
+import java.lang.reflect.Modifier;
 import java.nio.charset.StandardCharsets;
 import java.nio.file.Files;
 import java.nio.file.Path;
+import java.util.Set;
 import java.util.regex.Matcher;
 import java.util.regex.Pattern;
 
@@ -17,6 +21,8 @@ final class LanguageTest {
     private static final Pattern ALLOWED = Pattern.compile(
             "new (IllegalState|IllegalArgument|IndexOutOfBounds)Exception\\((\"[^\"]*\")?\\)");
     private static final Pattern STATIC_FIELD = Pattern.compile("\\bstatic\\b(?! final class)[^({;]*=");
+    private static final Set<Class<?>> CONSTANT_TYPES = Set.of(int.class, long.class, boolean.class, char.class,
+            String.class);
     private static final Pattern METHOD = Pattern.compile("^ {4,8}[a-zA-Z][^=;]*\\([^;]*$");
 
     public static void main(String[] args) throws IOException {
@@ -35,6 +41,8 @@ final class LanguageTest {
             Check.due("is final: " + field.group(), field.group().contains("static final") ? 1 : 0, 1);
         }
         checkMethodLengths(code.split("\n"));
+        checkTexts(code);
+        checkCounts();
         Check.done();
     }
 
@@ -44,6 +52,37 @@ final class LanguageTest {
             if (sign > 126 || (sign < 32 && sign != '\n')) {
                 Check.report("sign " + (int) sign + " at " + i);
             }
+        }
+    }
+
+    /** Texts are joined by StringBuilder alone, and no text is compared by == or !=. */
+    private static void checkTexts(String code) {
+        Check.due("texts joined by +", countOf(Pattern.compile("\"\\s*\\+|\\+\\s*\""), code), 0);
+        Check.due("texts compared by == or !=", countOf(Pattern.compile("[=!]=\\s*\"|\"\\s*[=!]="), code), 0);
+    }
+
+    /** Rule 11: the classes of the file, their fields beside constants, and the parameters of a method. */
+    private static void checkCounts() {
+        Class<?>[] inside = Phrasehall.class.getDeclaredClasses();
+        Check.due("some twelve classes", inside.length + 1 <= 12 ? 1 : 0, 1);
+        checkCounts(Phrasehall.class);
+        for (Class<?> one : inside) {
+            checkCounts(one);
+            Check.due("classes inside " + one.getName(), one.getDeclaredClasses().length, 0);
+        }
+    }
+
+    private static void checkCounts(Class<?> one) {
+        int fields = 0;
+        for (Field field : one.getDeclaredFields()) {
+            boolean constant = Modifier.isStatic(field.getModifiers());
+            fields += constant ? 0 : 1;
+            Check.due(one.getName() + "." + field.getName() + " may be static",
+                    !constant || CONSTANT_TYPES.contains(field.getType()) ? 1 : 0, 1);
+        }
+        Check.due("some twenty fields of " + one.getName(), fields <= 20 ? 1 : 0, 1);
+        for (Method method : one.getDeclaredMethods()) {
+            Check.due("parameters of " + method.getName(), method.getParameterCount() <= 7 ? 1 : 0, 1);
         }
     }
 
