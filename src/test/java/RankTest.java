@@ -81,6 +81,15 @@ final class RankTest {
             Check.due("first, who won", hall.rank(0, 0), winner);
             Check.due("second, who lost with the better balance", hall.rank(0, 1), loser);
         }
+        for (int idle = 0; idle < 3; idle++) {
+            Phrasehall halves = pooled(3);
+            int one = idle == 0 ? 1 : 0;
+            int other = idle == 2 ? 1 : 2;
+            Halls.fence(halves, 0, one, other, 1, 0);
+            Halls.fence(halves, 0, one, other, 0, 5);
+            // one of two each, with the balances -4 and 4; who has no bouts has the balance 0
+            ranks("behind a winner with the worse balance, " + idle, halves, other, one, idle);
+        }
     }
 
     /** So many wins of one of so many bouts with another one, each to 1. */
@@ -105,6 +114,20 @@ final class RankTest {
         Halls.fence(hall, 0, 0, 1, 3, 2);
         Halls.fence(hall, 0, 2, 3, 5, 4);
         ranks("touches given", hall, 2, 0, 3, 1);
+        Phrasehall lower = pooled(4);
+        Halls.fence(lower, 0, 0, 1, 5, 4);
+        Halls.fence(lower, 0, 2, 3, 3, 2);
+        ranks("more touches given by lower numbers", lower, 0, 2, 1, 3);
+        Phrasehall few = pooled(4);
+        Halls.fence(few, 0, 0, 1, 1, 0);
+        Halls.fence(few, 0, 2, 3, 3, 2);
+        ranks("as few touches given as bouts", few, 2, 0, 3, 1);
+        Phrasehall fewer = pooled(4);
+        Halls.fence(fewer, 0, 0, 1, 1, 0);
+        Halls.fence(fewer, 0, 0, 1, 0, 0);
+        Halls.fence(fewer, 0, 2, 3, 2, 1);
+        Halls.fence(fewer, 0, 2, 3, 0, 0);
+        ranks("fewer touches given than bouts", fewer, 2, 0, 3, 1);
         Phrasehall like = pooled(4);
         Halls.fence(like, 0, 2, 3, 5, 4);
         Halls.fence(like, 0, 1, 0, 5, 4);
